@@ -445,6 +445,12 @@ public final class Promises {
     LampPlans y = told("b4 4;r1 2 2;u2 1 2;l0 0;");
     int[][] cross = {{3, 1}, {5, 3}, {1, 1}, {3, 5}, {1, 3}, {-1, 7}, {-1, -1}, {7, -1}};
     dueEvents("18 the cross", y, 0, cross);
+    // Here nothing else is towards the middle of the cross, 3, 2.
+    int[][] middle = {{5, 1}, {7, 3}, {5, 3}, {1, 1}, {1, 3}, {-1, 9}, {-1, -1}, {9, -1}};
+    dueEvents("18 a cross beside the diagonal", told("b5 5;r1 2 3;u3 1 2;l0 0;"), 0, middle);
+    LampPlans two = told("b3 2;l0 0;l1 1;");
+    due("18 of one lamp", two.event(0, 0, 0), 5);
+    due("18 then of another", two.event(1, 0, 0), 3);
     // Two walls to the right that touch have no point in common with one up.
     LampPlans z = told("b4 4;r0 2 4;r1 2 2;l1 0;");
     // Corners 1.5, .5 -> 5, -1; 5, 7; -3, 7; -3, -1; ends 0, 2; 4, 2; 1, 2; 3, 2.
@@ -501,6 +507,7 @@ public final class Promises {
     due("20 one in the middle", y.walls(0), 1 + 2 + 4 + 8 + 32);
     // A wall that is longer upon a shorter one: beside the shorter it is the longer that is met.
     LampPlans z = told("b4 4;r1 1 1;r0 1 4;l1 0;");
+    due("20 a side is hidden", told("b2 2;r0 1 2;l0 1;").walls(0), 2 + 4 + 8 + 16);
     due("20 a longer behind a shorter", z.walls(0), 1 + 2 + 8 + 16 + 32);
   }
 
@@ -515,6 +522,9 @@ public final class Promises {
     dueSectors("19", x, 0, new int[][] {{5, 3, 10}, {5, 9, 20}, {4, 9, 20}, {4, 3, 10}, {2, 35, 12}, {3, 1, 1}, {0, 1, 1},
       {1, 35, 12}});
     due("20 walls(0)", x.walls(0), 63);
+    // Events 1, 1; 1, 3; -1, 7; -1, 3; -1, -1; 7, -1; wall 4 ends at 1, 2: beside it side 2 is met.
+    dueSectors("19 a wall's end", told("b4 4;r0 2 1;l0 0;"), 0, new int[][] {{2, 49, 12}, {4, 15, 28}, {4, 3, 14}, {3, 1, 2},
+      {0, 1, 1}, {1, 7, 1}});
     LampPlans y = told("b9 9;l0 0;");
     // 9 * 8.5 / 2 twice, 9 * 0.5 / 2 twice.
     dueSectors("19 of 9, 9", y, 0, new int[][] {{2, 153, 4}, {3, 9, 4}, {0, 9, 4}, {1, 153, 4}});
@@ -653,6 +663,13 @@ public final class Promises {
     due("27 another that is behind a wall", x.unseen(), 1);
     x.breaks(4);
     due("27 seen is as all is now", x.unseen(), 0);
+    LampPlans y = told("b2 2;r0 1 2;l0 0;l0 1;");
+    y.sees(1, 1, 0);
+    due("27 above the wall", y.unseen(), 2);
+    y.sees(1, 0, 1);
+    due("27 and below it", y.unseen(), 2);
+    y.sees(0, 0, 0);
+    due("27 dark on both sides", y.unseen(), 0);
   }
 
   private static void keepAndBack() {
