@@ -153,7 +153,7 @@ public final class LampPlans {
         if (!now.hasLamp(l) || !now.hasSpot(x, y)) {
             return BAD;
         }
-        return Light.isLitBy(now, l, x, y, NONE) ? 1 : 0;
+        return Light.isFree(now, now.lampPart(l, PART_X), now.lampPart(l, PART_Y), x, y, NONE) ? 1 : 0;
     }
 
     public int by(int x, int y) {
@@ -264,23 +264,20 @@ public final class LampPlans {
         if (!now.hasInnerWall(w)) {
             return BAD;
         }
-        return litWithout(w) - litWithout(NONE);
+        int lampsOn = now.lampsOn();
+        return light.spotsLitBy(now, lampsOn, w) - light.spotsLitBy(now, lampsOn, NONE);
     }
 
     public int worst() {
         int worstWall = NONE, mostLit = 0;
         for (int w = SIDES; w < now.wallCount; w++) {
-            int spots = litWithout(w);
+            int spots = light.spotsLitBy(now, now.lampsOn(), w);
             if (worstWall == NONE || spots > mostLit) {
                 worstWall = w;
                 mostLit = spots;
             }
         }
         return worstWall;
-    }
-
-    private int litWithout(int w) {
-        return light.spotsLitBy(now, now.lampsOn(), w);
     }
 
     // ---- which lamp
@@ -662,10 +659,6 @@ public final class LampPlans {
                     : end * step <= met && met <= begin * step;
         }
 
-        static boolean isLitBy(Plan plan, int l, int x, int y, int without) {
-            return isFree(plan, plan.lampPart(l, PART_X), plan.lampPart(l, PART_Y), x, y, without);
-        }
-
         static int lampsOnAt(Plan plan, int x, int y) {
             return lampsAt(plan, x, y, plan.lampsOn(), NONE);
         }
@@ -673,7 +666,8 @@ public final class LampPlans {
         private static int lampsAt(Plan plan, int x, int y, int lamps, int without) {
             int bits = 0;
             for (int l = 0; l < plan.lampCount; l++) {
-                if ((lamps >> l & 1) == 1 && isLitBy(plan, l, x, y, without)) {
+                if ((lamps >> l & 1) == 1
+                        && isFree(plan, plan.lampPart(l, PART_X), plan.lampPart(l, PART_Y), x, y, without)) {
                     bits |= 1 << l;
                 }
             }
