@@ -1,3 +1,10 @@
+import com.sun.source.tree.CompilationUnitTree;
+import com.sun.source.tree.IdentifierTree;
+import com.sun.source.tree.MemberSelectTree;
+import com.sun.source.tree.MethodInvocationTree;
+import com.sun.source.tree.MethodTree;
+import com.sun.source.util.JavacTask;
+import com.sun.source.util.TreeScanner;
 import java.lang.management.ManagementFactory;
 import java.lang.reflect.Constructor;
 import java.lang.reflect.Field;
@@ -8,10 +15,15 @@ import java.nio.file.Path;
 import java.util.ArrayList;
 import java.util.Arrays;
 import java.util.List;
+import java.util.Map;
 import java.util.Set;
+import java.util.TreeMap;
 import java.util.TreeSet;
 import java.util.regex.Matcher;
 import java.util.regex.Pattern;
+import javax.tools.JavaCompiler;
+import javax.tools.StandardJavaFileManager;
+import javax.tools.ToolProvider;
 
 // The public face of the class, and those rules of LANGUAGE.md that a look at it can tell.
 public final class Face {
@@ -20,6 +32,7 @@ public final class Face {
     "lit(int,int,int)", "by(int,int)", "lights(int)", "all()", "events(int)", "event(int,int,int)",
     "sector(int,int,int)", "walls(int)", "fewest()", "best(int)", "gain(int)", "worst()", "sees(int,int,int)",
     "forget()", "unseen()", "keep(int)", "back(int)", "count(int)"};
+  private static final Path SOURCE = Path.of("src/main/java/LampPlans.java");
   private static int wrong = 0;
 
   private static void must(boolean so, String what) {
@@ -39,7 +52,8 @@ public final class Face {
           own + " is static and not public");
       members(own);
     }
-    text(Files.readString(Path.of("src/main/java/LampPlans.java")));
+    text(Files.readString(SOURCE));
+    depth();
     room();
     System.out.println(wrong == 0 ? "the face is as due" : wrong + " things are not as due");
     if (wrong != 0) System.exit(1);
@@ -105,6 +119,53 @@ public final class Face {
       must(lines <= 60, "60 lines at most: " + method.group().lines().findFirst().orElse(""));
     }
     must(methods > 50, "methods are found in the text: " + methods);
+  }
+
+  // How deep calls go, by names alone: so no two methods may have one name.
+  private static void depth() throws Exception {
+    Map<String, Set<String>> calls = new TreeMap<>();
+    JavaCompiler compiler = ToolProvider.getSystemJavaCompiler();
+    try (StandardJavaFileManager files = compiler.getStandardFileManager(null, null, null)) {
+      JavacTask task = (JavacTask) compiler.getTask(null, files, null, null, null, files.getJavaFileObjects(SOURCE));
+      for (CompilationUnitTree unit : task.parse()) new CallScanner(calls).scan(unit, "");
+    }
+    for (String method : calls.keySet()) {
+      int deep = deep(method, calls, 0);
+      must(deep <= 8, method + " goes eight calls deep at most: " + deep);
+    }
+    must(calls.size() > 50, "methods are found in the tree: " + calls.size());
+  }
+
+  private static int deep(String method, Map<String, Set<String>> calls, int above) {
+    // A method that calls itself would go on here; the class has none.
+    if (above > 20) return 1;
+    int below = 0;
+    for (String called : calls.getOrDefault(method, Set.of())) below = Math.max(below, deep(called, calls, above + 1));
+    return below + 1;
+  }
+
+  private static final class CallScanner extends TreeScanner<Void, String> {
+    private final Map<String, Set<String>> calls;
+
+    CallScanner(Map<String, Set<String>> calls) {
+      this.calls = calls;
+    }
+
+    @Override
+    public Void visitMethod(MethodTree method, String outer) {
+      String name = method.getName().toString();
+      must(name.equals("<init>") || !calls.containsKey(name), name + " is the name of one method");
+      calls.putIfAbsent(name, new TreeSet<>());
+      return super.visitMethod(method, name);
+    }
+
+    @Override
+    public Void visitMethodInvocation(MethodInvocationTree call, String method) {
+      Set<String> called = calls.get(method);
+      if (called != null && call.getMethodSelect() instanceof IdentifierTree own) called.add(own.getName().toString());
+      if (called != null && call.getMethodSelect() instanceof MemberSelectTree of) called.add(of.getIdentifier().toString());
+      return super.visitMethodInvocation(call, method);
+    }
   }
 
   // A run's objects are never given back, so calls use what the constructor made.
