@@ -114,8 +114,9 @@ abstract class Due {
 
     void standing(LampPlans x) {
       for (int what = 0; what < 7; what++) add(x.count(what));
-      for (int w = 4; w < x.count(2); w++) for (int what = 0; what < 4; what++) add(x.wall(w, what));
-      for (int l = 0; l < x.count(3); l++) for (int what = 0; what < 3; what++) add(x.lamp(l, what));
+      int walls = all[size - 5], lamps = all[size - 4];
+      for (int w = 4; w < walls; w++) for (int what = 0; what < 4; what++) add(x.wall(w, what));
+      for (int l = 0; l < lamps; l++) for (int what = 0; what < 3; what++) add(x.lamp(l, what));
       add(x.unseen());
       add(x.all());
     }
