@@ -754,8 +754,8 @@ public final class LampPlans {
                 if (along == 0 || along == length) {
                     return true;
                 }
-                onRight |= !up;
-                onUp |= up;
+                onRight = onRight || !up;
+                onUp = onUp || up;
             }
             return onRight && onUp;
         }
